@@ -293,8 +293,10 @@ public final class PointedBench {
             return NONE;
         }
         int sum = 0;
-        for (int child = 0; child < c.children; child++) {
-            sum += c.liking(child, c.traits[man]);
+        for (int trait = 0; trait < SIX; trait++) {
+            if ((c.traits[man] >> trait & 1) != 0) {
+                sum += c.sweetness(trait);
+            }
         }
         return leastTerms(sum, c.children, under);
     }
@@ -369,7 +371,22 @@ public final class PointedBench {
             return MISSING;
         }
         course.begin(c);
-        return course.recount(deeds, what);
+        switch (what) {
+            case 0:
+                return course.firstReign(deeds);
+            case 1:
+                return course.changes(deeds);
+            case 2:
+                return course.longestReign(deeds);
+            case 3:
+                return course.mostFickle(deeds);
+            case 4:
+                return course.gains(deeds, SHOW);
+            case 5:
+                return course.gains(deeds, SCARE);
+            default:
+                return MISSING;
+        }
     }
 
     public long odds(int log, int a, int b, boolean under) {
@@ -529,20 +546,30 @@ public final class PointedBench {
             return bits;
         }
 
-        /** How much a CHILD LIKES some TRAITS (bits) together, FEARED or not. */
-        int liking(int child, int bits) {
+        /**
+         * How much a CHILD LIKES the TRAITS of a MAN together, but NONE, below all others, if it FEARS one:
+         * so it PUTS a MAN above all those of whom this is less.
+         */
+        int regard(int child, int man) {
+            if ((fears[child] & traits[man]) != 0) {
+                return NONE;
+            }
             int sum = 0;
             for (int trait = 0; trait < SIX; trait++) {
-                if ((bits >> trait & 1) != 0) {
+                if ((traits[man] >> trait & 1) != 0) {
                     sum += likes[child * SIX + trait];
                 }
             }
             return sum;
         }
 
-        /** As liking, but NONE (below all others) if one is FEARED: so the greater is PUT above the less. */
-        int regard(int child, int bits) {
-            return (fears[child] & bits) != 0 ? NONE : liking(child, bits);
+        /** How much all CHILDREN LIKE a TRAIT together. */
+        int sweetness(int trait) {
+            int sum = 0;
+            for (int child = 0; child < children; child++) {
+                sum += likes[child * SIX + trait];
+            }
+            return sum;
         }
 
         /** To whom of the MEN that stand (bits) a CHILD POINTS. */
@@ -551,7 +578,7 @@ public final class PointedBench {
             int to = NOBODY;
             for (int man = 0; man < men; man++) {
                 if ((standing >> man & 1) != 0) {
-                    int regard = regard(child, traits[man]);
+                    int regard = regard(child, man);
                     if (regard > most) {
                         most = regard;
                         to = man;
@@ -588,12 +615,8 @@ public final class PointedBench {
             int most = NONE;
             int sweetest = 0;
             for (int trait = 0; trait < SIX; trait++) {
-                int sum = 0;
-                for (int child = 0; child < children; child++) {
-                    sum += likes[child * SIX + trait];
-                }
-                if (sum > most) {
-                    most = sum;
+                if (sweetness(trait) > most) {
+                    most = sweetness(trait);
                     sweetest = trait;
                 }
             }
@@ -739,28 +762,28 @@ public final class PointedBench {
             if (pointOf(child, ALL) == man) {
                 return 0;
             }
-            int least = Integer.MAX_VALUE;
+            int least = NONE;
             int sort = NONE;
             for (int trait = 0; trait < SIX; trait++) {
                 int buns = bunsOf(child, man, trait);
-                if (buns != NONE && buns < least) {
+                if (buns != NONE && (least == NONE || buns < least)) {
                     least = buns;
                     sort = trait;
                 }
             }
-            return sort == NONE || which ? sort : least;
+            return which ? sort : least;
         }
 
         /** How much more a CHILD is to LIKE one TRAIT so that it POINTS to a MAN; NONE if that can't help. */
         private int bunsOf(int child, int man, int trait) {
-            int own = regard(child, traits[man]);
+            int own = regard(child, man);
             if (own == NONE || (traits[man] >> trait & 1) == 0) {
                 return NONE;
             }
             int buns = 0;
             for (int other = 0; other < men; other++) {
-                int lack = regard(child, traits[other]) - own + (other < man ? 1 : 0);
-                if (other != man && regard(child, traits[other]) != NONE && lack > 0) {
+                int lack = regard(child, other) - own + (other < man ? 1 : 0);
+                if (other != man && regard(child, other) != NONE && lack > 0) {
                     // Who HAS the TRAIT, too, is LIKED as much more: he stays ahead.
                     if ((traits[other] >> trait & 1) != 0) {
                         return NONE;
@@ -1262,12 +1285,12 @@ public final class PointedBench {
                 return NONE;
             }
             int truth = point[child];
-            int regard = county.regard(child, county.traits[chosen]);
+            int regard = county.regard(child, chosen);
             int lie = NONE;
             for (int man = 0; man < men && lie == NONE; man++) {
                 point[child] = man;
                 int then = chosenBy(ALL);
-                if (then != NOBODY && county.regard(child, county.traits[then]) > regard) {
+                if (then != NOBODY && county.regard(child, then) > regard) {
                     lie = man;
                 }
             }
@@ -1446,7 +1469,7 @@ public final class PointedBench {
 
         private void holdBefore(County county, int child) {
             for (int man = 0; man < men; man++) {
-                regards[man] = county.regard(child, county.traits[man]);
+                regards[man] = county.regard(child, man);
             }
             for (int man = 0; man < men; man++) {
                 for (int other = 0; other < men; other++) {
@@ -1591,6 +1614,9 @@ public final class PointedBench {
 
     /** What becomes of a COUNTY, DEED by DEED. */
     private static final class Course {
+        /** Which DEED each number below 10 draws. */
+        private static final int[] LOTS = {SHOW, SHOW, HIDE, SCARE, TREAT, OUT, PICK, PICK, YEAR, YEAR};
+
         private final County county = new County();
         private final Poll poll = new Poll();
         private final int[] times = new int[SIX];
@@ -1639,17 +1665,13 @@ public final class PointedBench {
                 case OUT:
                     return letOut(who);
                 case PICK:
-                    gaoler = chosen();
+                    poll.ask(county);
+                    gaoler = poll.chosenBy(ALL);
                     picks++;
                     return true;
                 default:
                     return passYear();
             }
-        }
-
-        private int chosen() {
-            poll.ask(county);
-            return poll.chosenBy(ALL);
         }
 
         private boolean turnTrait(int man, int trait, boolean on) {
@@ -1740,7 +1762,8 @@ public final class PointedBench {
                     poll.ask(county);
                     return poll.voters;
                 case 4:
-                    return chosen();
+                    poll.ask(county);
+                    return poll.chosenBy(ALL);
                 case 5:
                     return outs;
                 default:
@@ -1751,7 +1774,7 @@ public final class PointedBench {
         void draw(int newSeed, int n) {
             seed = newSeed;
             for (int i = 0; i < n; i++) {
-                drawDeed(below(10));
+                drawDeed();
             }
         }
 
@@ -1760,54 +1783,25 @@ public final class PointedBench {
             return n > 0 ? (seed >>> 16) % n : 0;
         }
 
-        /** What is drawn for a DEED stands in the document's order: who, which TRAIT, how much. */
-        private void drawDeed(int lot) {
-            if (lot >= 8) {
-                act(YEAR, NONE, NONE, NONE);
-            } else if (lot >= 6) {
-                act(PICK, NONE, NONE, NONE);
-            } else if (lot < 3 && county.men > 0) {
-                int man = below(county.men);
-                act(lot == 2 ? HIDE : SHOW, man, below(SIX), NONE);
-            } else if (lot >= 3 && county.children > 0) {
-                drawForChild(lot, below(county.children));
+        /** Draws a DEED in the document's order: which, who, which TRAIT, how much. */
+        private void drawDeed() {
+            int lot = below(LOTS.length);
+            int kind = LOTS[lot];
+            boolean ofMan = kind == SHOW || kind == HIDE;
+            boolean ofAll = kind == PICK || kind == YEAR;
+            int people = ofMan ? county.men : county.children;
+            if (ofAll) {
+                act(kind, NONE, NONE, NONE);
+            } else if (people > 0) {
+                int who = below(people);
+                int trait = kind == OUT ? NONE : below(SIX);
+                int much = kind == TREAT ? 1 + below(3) : NONE;
+                act(kind, who, trait, much);
             }
         }
 
-        private void drawForChild(int lot, int child) {
-            if (lot == 5) {
-                act(OUT, child, NONE, NONE);
-                return;
-            }
-            int trait = below(SIX);
-            if (lot == 3) {
-                act(SCARE, child, trait, NONE);
-            } else {
-                act(TREAT, child, trait, 1 + below(3));
-            }
-        }
-
-        /** Of a YEAR that has just begun, behind all DEEDS up to END. */
-        int recount(Deeds deeds, int what) {
-            switch (what) {
-                case 0:
-                    return firstReign(deeds);
-                case 1:
-                    return changes(deeds);
-                case 2:
-                    return longestReign(deeds);
-                case 3:
-                    return fickle(deeds);
-                case 4:
-                    return gains(deeds, SHOW);
-                case 5:
-                    return gains(deeds, SCARE);
-                default:
-                    return MISSING;
-            }
-        }
-
-        private int firstReign(Deeds deeds) {
+        /** This and the next ones: of a YEAR that has just begun, behind all DEEDS up to END. */
+        int firstReign(Deeds deeds) {
             for (int k = 0; k < deeds.size && doDeed(deeds, k); k++) {
                 if (gaoler != NOBODY) {
                     return k;
@@ -1816,7 +1810,7 @@ public final class PointedBench {
             return NONE;
         }
 
-        private int changes(Deeds deeds) {
+        int changes(Deeds deeds) {
             int changes = 0;
             int ahead = gaoler;
             for (int k = 0; k < deeds.size && doDeed(deeds, k); k++) {
@@ -1828,7 +1822,7 @@ public final class PointedBench {
             return changes;
         }
 
-        private int longestReign(Deeds deeds) {
+        int longestReign(Deeds deeds) {
             Arrays.fill(times, 0);
             for (int k = 0; k < deeds.size && doDeed(deeds, k); k++) {
                 if (deeds.kind[k] == YEAR && gaoler != NOBODY) {
@@ -1838,7 +1832,7 @@ public final class PointedBench {
             return mostTimes();
         }
 
-        private int fickle(Deeds deeds) {
+        int mostFickle(Deeds deeds) {
             Arrays.fill(times, 0);
             for (int child = 0; child < county.children; child++) {
                 points[child] = county.pointOf(child, ALL);
@@ -1868,7 +1862,7 @@ public final class PointedBench {
         }
 
         /** How many DEEDS of a kind, show or scare, there were by which one HAS or FEARS more. */
-        private int gains(Deeds deeds, int kind) {
+        int gains(Deeds deeds, int kind) {
             int gains = 0;
             int ahead = bitsOf(kind);
             for (int k = 0; k < deeds.size && doDeed(deeds, k); k++) {
