@@ -113,13 +113,13 @@ public final class PointedBench {
     }
 
     public int deed(int year, int k, int what) {
-        Deeds deeds = now.yearAt(year);
+        Lines deeds = now.yearAt(year);
         return deeds == null ? MISSING : deeds.told(k, what);
     }
 
     public int till(int county, int year) {
         County c = now.countyAt(county);
-        Deeds deeds = now.yearAt(year);
+        Lines deeds = now.yearAt(year);
         if (c == null || deeds == null) {
             return NONE;
         }
@@ -129,7 +129,7 @@ public final class PointedBench {
 
     public int state(int county, int year, int n, int what) {
         County c = now.countyAt(county);
-        Deeds deeds = now.yearAt(year);
+        Lines deeds = now.yearAt(year);
         if (c == null || deeds == null || n < 0 || n > deeds.size) {
             return NONE;
         }
@@ -199,12 +199,12 @@ public final class PointedBench {
     }
 
     public int fact(int log, int k, int what) {
-        Facts facts = now.logAt(log);
+        Lines facts = now.logAt(log);
         return facts == null ? MISSING : facts.told(k, what);
     }
 
     public int fits(int log, int what) {
-        Facts facts = now.logAt(log);
+        Lines facts = now.logAt(log);
         if (facts == null) {
             return MISSING;
         }
@@ -366,7 +366,7 @@ public final class PointedBench {
 
     public int after(int county, int year, int what) {
         County c = now.countyAt(county);
-        Deeds deeds = now.yearAt(year);
+        Lines deeds = now.yearAt(year);
         if (c == null || deeds == null) {
             return MISSING;
         }
@@ -390,7 +390,7 @@ public final class PointedBench {
     }
 
     public long odds(int log, int a, int b, boolean under) {
-        Facts facts = now.logAt(log);
+        Lines facts = now.logAt(log);
         if (facts == null || a < 0 || a > ALL || b < 0 || b > ALL) {
             return NONE;
         }
@@ -399,7 +399,7 @@ public final class PointedBench {
     }
 
     public int low(int log, boolean high) {
-        Facts facts = now.logAt(log);
+        Lines facts = now.logAt(log);
         if (facts == null) {
             return NONE;
         }
@@ -795,19 +795,30 @@ public final class PointedBench {
         }
     }
 
-    /** A YEAR as told. */
-    private static final class Deeds {
+    /** A YEAR or a LOG as told: DEEDS or FACTS, each of a kind and with its numbers. */
+    private static final class Lines {
         int size;
-        final int[] kind = new int[MOST_DEEDS];
-        final int[] first = new int[MOST_DEEDS];
-        final int[] second = new int[MOST_DEEDS];
-        final int[] third = new int[MOST_DEEDS];
+        final int[] kind;
+        final int[] first;
+        final int[] second;
+        final int[] third;
+        private final int numbers;
 
-        Deeds() {
+        Lines(int most, int newNumbers) {
+            int room = Math.max(0, most);
+            kind = new int[room];
+            first = new int[room];
+            second = new int[room];
+            third = new int[room];
+            numbers = newNumbers;
+        }
+
+        boolean isFull() {
+            return size >= kind.length;
         }
 
         void add(int newKind, int a, int b, int c) {
-            if (size < MOST_DEEDS) {
+            if (!isFull()) {
                 kind[size] = newKind;
                 first[size] = a;
                 second[size] = b;
@@ -816,19 +827,20 @@ public final class PointedBench {
             }
         }
 
-        void take(Deeds from) {
+        /** From one that has as much room. */
+        void take(Lines from) {
             size = from.size;
-            System.arraycopy(from.kind, 0, kind, 0, MOST_DEEDS);
-            System.arraycopy(from.first, 0, first, 0, MOST_DEEDS);
-            System.arraycopy(from.second, 0, second, 0, MOST_DEEDS);
-            System.arraycopy(from.third, 0, third, 0, MOST_DEEDS);
+            System.arraycopy(from.kind, 0, kind, 0, size);
+            System.arraycopy(from.first, 0, first, 0, size);
+            System.arraycopy(from.second, 0, second, 0, size);
+            System.arraycopy(from.third, 0, third, 0, size);
         }
 
         int told(int k, int what) {
             if (k == NONE && what == 0) {
                 return size;
             }
-            if (k < 0 || k >= size) {
+            if (k < 0 || k >= size || what > numbers) {
                 return MISSING;
             }
             switch (what) {
@@ -846,57 +858,11 @@ public final class PointedBench {
         }
     }
 
-    /** A LOG as told. */
-    private static final class Facts {
-        int size;
-        final int[] kind = new int[MOST_FACTS];
-        final int[] first = new int[MOST_FACTS];
-        final int[] second = new int[MOST_FACTS];
-
-        Facts() {
-        }
-
-        void add(int newKind, int a, int b) {
-            if (size < MOST_FACTS) {
-                kind[size] = newKind;
-                first[size] = a;
-                second[size] = b;
-                size++;
-            }
-        }
-
-        void take(Facts from) {
-            size = from.size;
-            System.arraycopy(from.kind, 0, kind, 0, MOST_FACTS);
-            System.arraycopy(from.first, 0, first, 0, MOST_FACTS);
-            System.arraycopy(from.second, 0, second, 0, MOST_FACTS);
-        }
-
-        int told(int k, int what) {
-            if (k == NONE && what == 0) {
-                return size;
-            }
-            if (k < 0 || k >= size) {
-                return MISSING;
-            }
-            switch (what) {
-                case 0:
-                    return kind[k];
-                case 1:
-                    return first[k];
-                case 2:
-                    return second[k];
-                default:
-                    return MISSING;
-            }
-        }
-    }
-
     /** All that is told: what an image has, too. */
     private static final class Told {
         final County[] counties = {new County(), new County()};
-        final Deeds[] years = {new Deeds(), new Deeds()};
-        final Facts[] logs = {new Facts(), new Facts()};
+        final Lines[] years = {new Lines(MOST_DEEDS, 3), new Lines(MOST_DEEDS, 3)};
+        final Lines[] logs = {new Lines(MOST_FACTS, 2), new Lines(MOST_FACTS, 2)};
         final int[] held = new int[SORTS];
         final byte[] tape = new byte[TAPE];
         int length;
@@ -957,11 +923,11 @@ public final class PointedBench {
             return has(COUNTIES, k) ? counties[k] : null;
         }
 
-        Deeds yearAt(int k) {
+        Lines yearAt(int k) {
             return has(YEARS, k) ? years[k] : null;
         }
 
-        Facts logAt(int k) {
+        Lines logAt(int k) {
             return has(LOGS, k) ? logs[k] : null;
         }
     }
@@ -992,8 +958,8 @@ public final class PointedBench {
         private static final int NO_TOKEN = 4;
 
         final County county = new County();
-        final Deeds deeds = new Deeds();
-        final Facts facts = new Facts();
+        final Lines deeds = new Lines(MOST_DEEDS, 3);
+        final Lines facts = new Lines(MOST_FACTS, 2);
         int fault;
         int place;
         private byte[] tape;
@@ -1087,7 +1053,7 @@ public final class PointedBench {
             if (line == NONE) {
                 return false;
             }
-            if (isFull(line)) {
+            if (isFullFor(line)) {
                 blame(3, from);
             }
             Arrays.fill(numbers, NONE);
@@ -1133,7 +1099,7 @@ public final class PointedBench {
             return true;
         }
 
-        private boolean isFull(int line) {
+        private boolean isFullFor(int line) {
             if (line == MAN) {
                 return county.men >= SIX;
             }
@@ -1141,9 +1107,9 @@ public final class PointedBench {
                 return county.children >= SIX;
             }
             if (line >= FIRST_LINE[LOGS]) {
-                return facts.size >= MOST_FACTS;
+                return facts.isFull();
             }
-            return line >= FIRST_LINE[YEARS] && deeds.size >= MOST_DEEDS;
+            return line >= FIRST_LINE[YEARS] && deeds.isFull();
         }
 
         private int value() {
@@ -1162,7 +1128,7 @@ public final class PointedBench {
         /** A line without a FAULT, none having been ahead of it: so its NUMBERS can be and there is room. */
         private void store(int line) {
             if (line >= FIRST_LINE[LOGS]) {
-                facts.add(line - FIRST_LINE[LOGS], numbers[0], numbers[1]);
+                facts.add(line - FIRST_LINE[LOGS], numbers[0], numbers[1], NONE);
             } else if (line >= FIRST_LINE[YEARS]) {
                 deeds.add(line - FIRST_LINE[YEARS], numbers[0], numbers[1], numbers[2]);
             } else if (line == MAN) {
@@ -1639,7 +1605,7 @@ public final class PointedBench {
         }
 
         /** Does the first n DEEDS, up to one that can't be: how many it has done. */
-        int follow(Deeds deeds, int n) {
+        int follow(Lines deeds, int n) {
             for (int k = 0; k < n; k++) {
                 if (!doDeed(deeds, k)) {
                     return k;
@@ -1648,7 +1614,7 @@ public final class PointedBench {
             return n;
         }
 
-        private boolean doDeed(Deeds deeds, int k) {
+        private boolean doDeed(Lines deeds, int k) {
             return act(deeds.kind[k], deeds.first[k], deeds.second[k], deeds.third[k]);
         }
 
@@ -1801,7 +1767,7 @@ public final class PointedBench {
         }
 
         /** This and the next ones: of a YEAR that has just begun, behind all DEEDS up to END. */
-        int firstReign(Deeds deeds) {
+        int firstReign(Lines deeds) {
             for (int k = 0; k < deeds.size && doDeed(deeds, k); k++) {
                 if (gaoler != NOBODY) {
                     return k;
@@ -1810,7 +1776,7 @@ public final class PointedBench {
             return NONE;
         }
 
-        int changes(Deeds deeds) {
+        int changes(Lines deeds) {
             int changes = 0;
             int ahead = gaoler;
             for (int k = 0; k < deeds.size && doDeed(deeds, k); k++) {
@@ -1822,7 +1788,7 @@ public final class PointedBench {
             return changes;
         }
 
-        int longestReign(Deeds deeds) {
+        int longestReign(Lines deeds) {
             Arrays.fill(times, 0);
             for (int k = 0; k < deeds.size && doDeed(deeds, k); k++) {
                 if (deeds.kind[k] == YEAR && gaoler != NOBODY) {
@@ -1832,7 +1798,7 @@ public final class PointedBench {
             return mostTimes();
         }
 
-        int mostFickle(Deeds deeds) {
+        int mostFickle(Lines deeds) {
             Arrays.fill(times, 0);
             for (int child = 0; child < county.children; child++) {
                 points[child] = county.pointOf(child, ALL);
@@ -1862,7 +1828,7 @@ public final class PointedBench {
         }
 
         /** How many DEEDS of a kind, show or scare, there were by which one HAS or FEARS more. */
-        int gains(Deeds deeds, int kind) {
+        int gains(Lines deeds, int kind) {
             int gains = 0;
             int ahead = bitsOf(kind);
             for (int k = 0; k < deeds.size && doDeed(deeds, k); k++) {
@@ -1905,7 +1871,7 @@ public final class PointedBench {
             }
         }
 
-        void gather(Facts facts) {
+        void gather(Lines facts) {
             fitting = 0;
             for (int number = 0; number < NUMBERS; number++) {
                 if (fitsAll(facts, number)) {
@@ -1915,7 +1881,7 @@ public final class PointedBench {
             }
         }
 
-        private boolean fitsAll(Facts facts, int number) {
+        private boolean fitsAll(Lines facts, int number) {
             for (int k = 0; k < facts.size; k++) {
                 boolean isMore = sumOf(number, facts.first[k]) > sumOf(number, facts.second[k]);
                 if (isMore != (facts.kind[k] == PREFERRED)) {
@@ -1976,9 +1942,13 @@ public final class PointedBench {
                 for (int trait = 0; trait < SIX; trait++) {
                     levels[trait] = sumOf(fit[i], 1 << trait);
                 }
-                for (int pair = 0; pair < SIX * SIX; pair++) {
-                    if (levels[pair / SIX] > levels[pair % SIX]) {
-                        more[pair]++;
+                for (int trait = 1; trait < SIX; trait++) {
+                    for (int other = 0; other < trait; other++) {
+                        if (levels[trait] > levels[other]) {
+                            more[trait * SIX + other]++;
+                        } else if (levels[trait] < levels[other]) {
+                            more[other * SIX + trait]++;
+                        }
                     }
                 }
             }

@@ -618,6 +618,10 @@ public final class PromiseTest {
         Calls.due("40: over an image", x.image(1), true);
         Calls.due("41: it", x.again(1), true);
         Calls.due("41: as now", x.count(0), 2);
+        Calls.due("40: image 0", x.image(0), true);
+        Calls.due("one for 0", Calls.read(x, 0, 0, "man 8;"), 0);
+        Calls.due("41: again 0", x.again(0), true);
+        Calls.due("41: 0 as it was", x.county(0, 10), 3);
     }
 
     private static void emptyCounty() {

@@ -231,6 +231,14 @@ public final class ReaderTest {
         Calls.due("a fresh one forgets", Calls.read(x, 0, 1, "child 1 1;"), 1);
         Calls.due("men of it", x.county(1, 0), 0);
         Calls.due("traits of none", x.county(1, 20), NONE);
+        Calls.due("children, fears and likes", Calls.read(x, 0, 1, "man 1;has 0 0;child 1 1;fears 0 0;likes 0 0 9;"), 1);
+        Calls.due("all are forgotten", Calls.read(x, 0, 1, "man 2;child 2 2;"), 1);
+        int[][] due = {{0, 1}, {1, 1}, {10, 2}, {20, 0}, {30, 2}, {40, 2}, {50, 0}, {100, 0}};
+        for (int[] row : due) {
+            Calls.due("forgotten " + row[0], x.county(1, row[0]), row[1]);
+        }
+        Calls.due("a missing MAN", Calls.read(x, 0, 1, "has 5 0;likes 5 0 1;"), NONE);
+        Calls.due("is forgotten, too", Calls.read(x, 0, 1, "man 1;child 1 1;has 0 0;likes 0 0 1;"), 1);
     }
 
     // ---- random texts, against a reader of another make ----
