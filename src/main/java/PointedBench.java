@@ -194,7 +194,7 @@ public final class PointedBench {
         int stays = 10 - c.kindness[man];
         long tries = all ? raised(10, n) : 10;
         long good = all ? tries - raised(stays, n) : stays;
-        int fathers = Integer.bitCount(c.fathersIn());
+        int fathers = c.fathersIn();
         return leastTerms(raised(good, fathers), raised(tries, fathers), under);
     }
 
@@ -535,15 +535,14 @@ public final class PointedBench {
             return hasChild(child) && age[child] <= OLDEST_VOTER && term[child] > 0;
         }
 
-        /** CHILDREN (bits) whose fathers are in. */
         int fathersIn() {
-            int bits = 0;
+            int fathers = 0;
             for (int child = 0; child < children; child++) {
                 if (term[child] > 0) {
-                    bits |= 1 << child;
+                    fathers++;
                 }
             }
-            return bits;
+            return fathers;
         }
 
         /**
@@ -1541,12 +1540,11 @@ public final class PointedBench {
 
         /** As few wings as will do: how many; each one's is put into the row. */
         int divide(County county) {
-            for (int many = 0; many < SIX; many++) {
+            for (int many = 0; many <= SIX; many++) {
                 if (place(county, 0, many)) {
                     return many;
                 }
             }
-            place(county, 0, SIX);
             return SIX;
         }
 

@@ -297,6 +297,9 @@ public final class PromiseTest {
             Calls.due("18: sure " + t, y.fits(0, 2 + t), sure[t]);
         }
         Calls.due("18: ask of one", y.fits(0, 1), 1);
+        Calls.due("38: low of one", y.low(0, false), 4);
+        Calls.due("38: high of one", y.low(0, true), 4);
+        fraction("37: odds of one", y.odds(0, 1, 2, false), y.odds(0, 1, 2, true), 1, 1);
         PointedBench z = Calls.withLog("prefers 0 0;");
         Calls.due("18: none", z.fits(0, 0), 0);
         Calls.due("18: ask of none", z.fits(0, 1), NONE);
@@ -519,7 +522,9 @@ public final class PromiseTest {
         PointedBench six = Calls.withCounty("child 1 1;".repeat(6) + "fears 0 0;fears 1 0;fears 2 0;fears 3 0;fears 4 0;"
             + "fears 5 0;");
         Calls.due("33: six", six.wings(0, NONE), 6);
-        Calls.due("33: the last of six", six.wings(0, 5), 5);
+        for (int c = 0; c < 6; c++) {
+            Calls.due("33: of six, " + c, six.wings(0, c), c);
+        }
     }
 
     private static void later() {

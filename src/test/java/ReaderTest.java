@@ -10,6 +10,7 @@ public final class ReaderTest {
 
     public static void main(String[] args) {
         tape();
+        cutTexts();
         goodTexts();
         countyFaults();
         yearFaults();
@@ -52,6 +53,33 @@ public final class ReaderTest {
         Calls.due("place of it", x.fault(1), 16);
         Calls.due("fault(2)", x.fault(2), NONE);
         Calls.due("fault(-1)", x.fault(-1), NONE);
+    }
+
+    private static void cut(String text, int n, int fault, int place) {
+        PointedBench x = new PointedBench();
+        Calls.feed(x, text, 0);
+        Calls.due("end of '" + text + "'", x.end(n), n);
+        Calls.due("text of '" + text + "' to " + n, x.text(0, NONE), fault == 0 ? 0 : NONE);
+        Calls.due("fault of '" + text + "' to " + n, x.fault(0), fault);
+        Calls.due("place of '" + text + "' to " + n, x.fault(1), place);
+    }
+
+    /** What stood behind the place where the tape was cut is no more. */
+    private static void cutTexts() {
+        cut("man 12;manman 3;", 3, 1, 3);
+        cut("man 12;manman 3;", 4, 1, 4);
+        cut("man 12;manman 3;", 5, 1, 5);
+        cut("man 12;manman 3;", 6, 1, 6);
+        cut("man 12;manman 3;", 7, 2, 4);
+        cut("man 12;manman 3;", 10, 1, 10);
+        cut("man 1 ;man 3;;man", 13, 0, NONE);
+        PointedBench x = new PointedBench();
+        Calls.feed(x, "man 10;", 0);
+        Calls.due("cut", x.end(5), 5);
+        Calls.feed(x, " ; man 7;", 5);
+        Calls.due("and gone on with", x.text(0, NONE), 0);
+        Calls.due("the first", x.county(0, 10), 1);
+        Calls.due("the second", x.county(0, 11), 7);
     }
 
     private static void goodTexts() {
