@@ -83,14 +83,15 @@ public final class PointedBench {
     }
 
     public int text(int sort, int at) {
+        int taken = now.length;
+        now.length = 0;
         now.fault = 0;
         now.place = NONE;
         int to = now.placeFor(sort, at);
         if (to == NONE) {
             return MISSING;
         }
-        reader.read(sort, now.tape, now.length);
-        now.length = 0;
+        reader.read(sort, now.tape, taken);
         now.fault = reader.fault;
         now.place = reader.place;
         if (reader.fault != 0) {

@@ -243,15 +243,17 @@ public final class ReaderTest {
         Calls.due("a wrong one", Calls.read(x, 0, 0, "man"), NONE);
         Calls.due("its fault", x.fault(0), 1);
         Calls.due("the 0th stands", x.county(0, 10), 1);
-        // Where no text is read the tape stays.
         Calls.due("a 2nd", Calls.read(x, 0, NONE, "man 3;"), -2);
         Calls.due("FAULT 0 then", x.fault(0), 0);
         Calls.due("no place then", x.fault(1), NONE);
-        Calls.due("at 2", x.text(0, 2), -2);
-        Calls.due("at -2", x.text(0, -2), -2);
-        Calls.due("sort 3 again", x.text(3, 0), -2);
-        Calls.due("the tape stays", x.end(6), 6);
-        Calls.due("in the place of 0", x.text(0, 0), 0);
+        tapeIsTaken(x, 0, NONE);
+        tapeIsTaken(x, 0, 2);
+        tapeIsTaken(x, 0, -2);
+        tapeIsTaken(x, 1, 0);
+        tapeIsTaken(x, 3, 0);
+        tapeIsTaken(x, 3, NONE);
+        tapeIsTaken(x, -1, NONE);
+        Calls.due("in the place of 0", Calls.read(x, 0, 0, "man 3;"), 0);
         Calls.due("0 is another", x.county(0, 10), 3);
         Calls.due("1 is the same", x.county(1, 10), 2);
         Calls.due("count(0)", x.count(0), 2);
@@ -267,6 +269,19 @@ public final class ReaderTest {
         }
         Calls.due("a missing MAN", Calls.read(x, 0, 1, "has 5 0;likes 5 0 1;"), NONE);
         Calls.due("is forgotten, too", Calls.read(x, 0, 1, "man 1;child 1 1;has 0 0;likes 0 0 1;"), 1);
+    }
+
+    /** Where no text is read the tape is taken all the same: what comes next comes behind an empty one. */
+    private static void tapeIsTaken(PointedBench x, int sort, int at) {
+        String call = "text(" + sort + ", " + at + ")";
+        Calls.feed(x, "man 4;", 0);
+        Calls.due(call, x.text(sort, at), -2);
+        Calls.due("FAULT behind " + call, x.fault(0), 0);
+        Calls.due("place behind " + call, x.fault(1), NONE);
+        Calls.due("end(1) behind " + call, x.end(1), NONE);
+        Calls.due("end(0) behind " + call, x.end(0), 0);
+        Calls.due("feed behind " + call, x.feed(0, 0, 0, 0, 0), 20);
+        Calls.due("cut again", x.end(0), 0);
     }
 
     // ---- random texts, against a reader of another make ----
