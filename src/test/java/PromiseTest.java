@@ -25,6 +25,7 @@ public final class PromiseTest {
         fits();
         drawn();
         duelsAndBest();
+        sixOfEach();
         trade();
         gangAndKindest();
         freedLikedUnlike();
@@ -369,6 +370,33 @@ public final class PromiseTest {
         Calls.due("21: guards, the least", y.best(0, 5), 3);
         Calls.due("21: one alone", Calls.withCounty("man 0;").best(0, 0), 0);
         Calls.due("21: longest of none", Calls.withCounty("man 0;").best(0, 6), 0);
+    }
+
+    /** Counts go as far as six. */
+    private static void sixOfEach() {
+        String men = "man 0;".repeat(6);
+        PointedBench x = Calls.withCounty(men + "has 0 0;has 1 1;has 2 2;has 3 3;has 4 4;has 5 5;");
+        Calls.due("21: six guards", x.best(0, 4), 6);
+        Calls.due("21: all guard", x.best(0, 5), 63);
+        Calls.due("21: no twins", x.best(0, 3), 0);
+        StringBuilder all = new StringBuilder(men);
+        for (int man = 0; man < 6; man++) {
+            for (int trait = 0; trait < 6; trait++) {
+                if (man != 4 || trait != 3) {
+                    all.append("has ").append(man).append(' ').append(trait).append(';');
+                }
+            }
+        }
+        PointedBench y = Calls.withCounty(all.toString());
+        Calls.due("21: rarest though five have it", y.best(0, 2), 3);
+        Calls.due("21: ten couples", y.best(0, 3), 10);
+        Calls.due("21: one guards", y.best(0, 5), 1);
+        PointedBench z = Calls.withCounty("man 0;man 0;" + "child 1 1;".repeat(6)
+            + "has 1 0;likes 0 0 1;likes 1 0 1;likes 2 0 1;likes 3 0 1;likes 4 0 1;likes 5 0 1;");
+        Calls.due("29: nobody POINTS to 0", z.runoff(0, 0), 0);
+        Calls.due("29: six POINT to the one that stays", z.runoff(0, 1), 1);
+        Calls.due("24: six", z.gang(0, false), 6);
+        Calls.due("22: all benches but nobody's", z.benches(0, 1), 63);
     }
 
     private static void trade() {
