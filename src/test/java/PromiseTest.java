@@ -397,6 +397,10 @@ public final class PromiseTest {
         Calls.due("29: six POINT to the one that stays", z.runoff(0, 1), 1);
         Calls.due("24: six", z.gang(0, false), 6);
         Calls.due("22: all benches but nobody's", z.benches(0, 1), 63);
+        PointedBench feared = Calls.withCounty(men + "has 0 0;has 1 0;has 2 0;has 3 0;has 4 0;has 5 0;child 1 1;fears 0 0;");
+        Calls.due("24: nobody is no MAN", feared.gang(0, false), 0);
+        Calls.due("24: of nobody", feared.gang(0, true), 0);
+        Calls.due("10: nobody of six", feared.picked(0, 63), 6);
     }
 
     private static void trade() {

@@ -124,6 +124,10 @@ public final class ReaderTest {
         Calls.due("fact 2", x.fact(0, 2, 0), -2);
         Calls.due("log 1", x.fact(1, NONE, 0), -2);
         Calls.due("log -1", x.fact(-1, NONE, 0), -2);
+        Calls.due("a second log", Calls.read(x, 2, NONE, "not 3 4;"), 1);
+        Calls.due("its fact", x.fact(1, 0, 2), 4);
+        Calls.due("its fact what 3", x.fact(1, 0, 3), -2);
+        Calls.due("the first log stays", x.fact(0, NONE, 0), 2);
     }
 
     private static void countyFaults() {
