@@ -20,6 +20,14 @@ final class Calls {
         due(call, got ? 1L : 0L, want ? 1L : 0L);
     }
 
+    static int wrong() {
+        return wrong;
+    }
+
+    static int asked() {
+        return asked;
+    }
+
     /** Puts a text behind the tape, by blocks of twenty bytes of which the last is cut. */
     static void feed(PointedBench x, String text, int tapeAhead) {
         for (int at = 0; at < text.length(); at += 20) {
@@ -43,6 +51,13 @@ final class Calls {
     static PointedBench withCounty(String county) {
         PointedBench x = new PointedBench();
         due("text of " + county, read(x, 0, PointedBench.NONE, county), 0);
+        return x;
+    }
+
+    /** A new object with a COUNTY and a YEAR. */
+    static PointedBench withYear(String county, String year) {
+        PointedBench x = withCounty(county);
+        due("text of " + year, read(x, 1, PointedBench.NONE, year), 0);
         return x;
     }
 
