@@ -101,6 +101,7 @@ final class BenchEdges {
             banned(two + "likes 2 4 1;", 4, 2);
             banned("man 0;has 0 3;child 1 1;", 0, 0);
             banned("", 0, 0);
+            banned("man 0;".repeat(6) + "child 1 1;has 5 5;likes 0 5 1;", 5, 1);
             banned("man 0;has 0 5;child 1 1;fears 0 5;", 5, 1);
             banned("man 0;man 0;" + "child 1 1;".repeat(6) + "has 0 5;likes 0 5 1;has 1 4;likes 0 4 2;likes 1 4 1;likes 2 4 1;"
                 + "likes 3 4 1;likes 4 4 1;likes 5 4 1;", 4, 6);

@@ -83,6 +83,7 @@ final class CountyEdges {
             bestOf("", 0, NONE);
             bestOf("child 1 1;", 0, NONE);
             bestOf("man 0;man 0;", 0, NONE);
+            bestOf(SIX_MEN, 0, NONE);
             bestOf(CYCLE, 0, NONE);
             bestOf(two + "likes 0 1 1;", 0, 1);
             // As many the one way as the other.
@@ -331,6 +332,10 @@ final class CountyEdges {
             String two = "man 0;man 0;child 1 1;child 20 0;has 1 0;likes 0 0 1;";
             gangOf(two, 1, 2);
             gangOf(two + "child 1 1;likes 2 0 1;", 2, 5);
+            gangOf(two + "child 1 1;", 2, 6);
+            gangOf("man 0;man 0;child 1 1;", 1, 1);
+            // 6 is nobody, to whom all POINT, but no MAN.
+            gangOf(SIX_MEN + "child 1 1;child 1 1;has 0 0;has 1 0;has 2 0;has 3 0;has 4 0;has 5 0;fears 0 0;fears 1 0;", 0, 0);
         });
     }
 
@@ -375,6 +380,9 @@ final class CountyEdges {
             }
             String most = "child 1 1;child 1 1;likes 0 0 9;likes 0 1 9;likes 0 2 9;likes 1 3 9;likes 1 4 9;likes 1 5 9;";
             dueOf("the most", most, Calls.withCounty(most).unlike(0, 0, 1), 54);
+            String six = SIX_CHILDREN + "likes 0 0 1;likes 1 0 2;likes 2 0 4;likes 3 0 8;likes 4 5 9;likes 5 0 9;";
+            dueOf("of the first two", six, Calls.withCounty(six).unlike(0, 0, 1), 1);
+            dueOf("of the last two", six, Calls.withCounty(six).unlike(0, 4, 5), 18);
         });
     }
 
@@ -409,6 +417,8 @@ final class CountyEdges {
             // To be as good as the one ahead of him is not enough, as the one behind him it is.
             bunOf("man 0;man 0;man 0;child 1 1;has 0 0;has 1 1;has 2 2;likes 0 2 4;", 1, 4, 1);
             bunOf("man 0;man 0;man 0;child 1 1;has 0 0;has 1 1;has 2 2;likes 0 0 4;", 1, 5, 1);
+            bunOf(SIX_MEN + "child 1 1;has 4 0;has 5 5;likes 0 0 2;", 5, 3, 5);
+            bunOf(SIX_MEN + "child 1 1;has 4 0;has 5 5;likes 0 0 2;", 4, 0, 0);
             // One who is FEARED is not to be outdone.
             bunOf("man 0;man 0;child 1 1;has 0 0;has 1 1;likes 0 0 9;fears 0 0;", 1, 0, 0);
             bunOf("man 0;man 0;man 0;child 1 1;has 0 0;has 1 1;has 2 2;likes 0 0 9;fears 0 0;", 2, 1, 2);

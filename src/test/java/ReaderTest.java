@@ -290,7 +290,7 @@ public final class ReaderTest {
 
     // ---- random texts, against a reader of another make ----
 
-    private record Fault(int fault, int place) {
+    record Fault(int fault, int place) {
     }
 
     private static final String[][] LINES = {
@@ -300,7 +300,8 @@ public final class ReaderTest {
 
     private static final Pattern TOKEN = Pattern.compile("[ \n]*(?:([a-z]+)|([0-9]+)|(;)|([^ \n])|$)", Pattern.DOTALL);
 
-    private static Fault expected(int sort, String text) {
+    /** The FAULT of a text, 0 without, and its place. */
+    static Fault expected(int sort, String text) {
         Matcher m = TOKEN.matcher(text);
         List<Fault> later = new ArrayList<>();
         int men = 0;

@@ -172,6 +172,7 @@ final class YearEdges {
                 Calls.due("40 years", behind(county, years, 30 + child), atLast[child]);
             }
             Calls.due("VOTES", behind(county, "year;", 3), 12);
+            Calls.due("the last of six", behind("child 1 1;".repeat(5) + "child 1 9;", "year;", 35), 8);
         });
         Edges.edge("A DEED can't be, if there is no such MAN, CHILD, or it is not as said.", () -> {
             String county = "man 9;child 1 1;";
@@ -481,10 +482,24 @@ final class YearEdges {
         Edges.edge("What 0: FIRST (NONE), 1: CHANGES, 2: REIGN (NONE), 3: FICKLE (NONE), 4: SHOWN, 5: SCARED.", () -> {
             int[] none = {NONE, 0, NONE, NONE, 0, 0};
             int[] due = {2, 2, 1, 0, 3, 1};
+            PointedBench x = Calls.withYear(TWO, "show 0 2;show 0 3;pick;scare 0 0;year;show 0 5;pick;year;year;");
             for (int what = 0; what < 6; what++) {
                 after(TWO, "", what, none[what]);
                 after("", "pick;year;", what, none[what]);
-                after(TWO, "show 0 2;show 0 3;pick;scare 0 0;year;show 0 5;pick;year;year;", what, due[what]);
+                Calls.due("after " + what, x.after(0, 0, what), due[what]);
+            }
+            // One behind the other, each asked as if it were the first.
+            PointedBench y = Calls.withYear(TWO, "pick;scare 0 0;year;pick;year;year;year;");
+            for (int time = 0; time < 3; time++) {
+                Calls.due("REIGN", y.after(0, 0, 2), 1);
+                Calls.due("FICKLE", y.after(0, 0, 3), 0);
+                Calls.due("CHANGES", y.after(0, 0, 1), 2);
+                Calls.due("SCARED", y.after(0, 0, 5), 1);
+            }
+            PointedBench z = Calls.withYear(TWO, "pick;year;treat 0 1 6;pick;year;year;");
+            for (int time = 0; time < 3; time++) {
+                Calls.due("FICKLE once more", z.after(0, 0, 3), 0);
+                Calls.due("REIGN once more", z.after(0, 0, 2), 1);
             }
         });
         Edges.edge("-2: there is none such (of either),", () -> {
