@@ -345,6 +345,11 @@ final class TextEdges {
             refused(0, "man 1;?;!", 1, 6);
             refused(0, "man 1 has;?", 1, 6);
             refused(0, "man ?;", 1, 4);
+            refused(0, "man man 1;", 1, 4);
+            refused(0, "child 1 a;", 1, 8);
+            refused(0, "child ;", 1, 6);
+            refused(1, "out pick;", 1, 4);
+            refused(2, "not 1 not;", 1, 6);
             refused(0, "7", 1, 0);
             refused(0, "man 1;;?", 1, 6);
             // Wherever it is, it goes ahead of all others.
